@@ -80,6 +80,7 @@ public final class PromiseTest {
         p28LandItems();
         p28LandFaults();
         p28LandNinth();
+        p28LandTape();
         p29Sheet();
         p30Write();
         p31Copy();
@@ -764,6 +765,14 @@ public final class PromiseTest {
         due("25 beyond", x.depart(1, 0), BEYOND);
         due("25 beyond", x.depart(-1, 0), BEYOND);
         due("25 nothing changes", x.of(0, 2) * 10 + x.now(0), 990);
+        ShadeCarpets y = new ShadeCarpets();
+        hours(y, 7);
+        one(y, 5, 0, 34, 2, 0);
+        y.place(1, 0, 8);
+        y.place(4, 0, 8);
+        due("25 till the hour before the 14th", y.depart(0, 1), 6);
+        y.place(0, 0, 1);
+        due("25 found in the 9th hour: 8 and 3 and 1", y.depart(0, 1), NONE);
     }
 
     private static void p26Feed() {
@@ -862,6 +871,21 @@ public final class PromiseTest {
         due("28 the 9th's own place, not a later fault", land(x, "clouds;bride 2"), -8);
         due("28 the 9th's own place", land(x, "clouds; bride"), -9);
         due("28 no finding", x.status(-1), 0);
+    }
+
+    private static void p28LandTape() {
+        ShadeCarpets x = new ShadeCarpets();
+        String suns = "sun;".repeat(28);
+        due("28 120 bytes, ending too early", land(x, suns + "sun;sun;"), -121);
+        due("28 120 bytes, ending in a word", land(x, suns + " sun;sun"), 30);
+        due("28 120 bytes, ending in a number", land(x, suns + "post 1 2"), 29);
+        due("28 120 bytes, ending in a blank", land(x, suns + "clouds  "), 29);
+        due("28 120 bytes, all blank", land(x, " ".repeat(120)), -121);
+        due("28 what a longer tape had is gone: blanks", land(x, "sun;"), -5);
+        due("28 a longer one", land(x, "post 1 15"), -8);
+        due("28 what a longer tape had is gone: digits", land(x, "post 1 1"), 1);
+        due("28 a longer one", land(x, "sunny"), -1);
+        due("28 what a longer tape had is gone: letters", land(x, "sun"), 1);
     }
 
     private static void p29Sheet() {
@@ -991,6 +1015,15 @@ public final class PromiseTest {
         due("33 now", x.write(0, 0, 0), 50);
         due("33 found then", x.write(0, 1, 0), 0);
         due("33 nothing changes", x.of(0, 2) * 10 + x.now(0), 500);
+        ShadeCarpets y = new ShadeCarpets();
+        hours(y, 17);
+        one(y, 0, 0, 50, 0, 0);
+        y.sheet(0, 8, 4);
+        y.book(0, 0);
+        int[] book = {50, 49, 48, 48};
+        for (int i = 0; i < 4; i++) {
+            due("33 heats 7, 6 and 5 on", y.write(0, i, 0), book[i]);
+        }
         x.sheet(1, 16, 0);
         due("33 none", x.book(1, 0), 0);
         due("33 beyond", x.book(0, 1), BEYOND);
