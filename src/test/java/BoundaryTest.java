@@ -632,6 +632,9 @@ public final class BoundaryTest {
         due("13: 1 HOUR more", x.now(0), 1);
         due("13: 60 HOURS, of which 27 have a HEAT of 6 or more, 6 or 12 two times", x.hours(60), 99 - 14 - 14 - 8);
         due("13: 60 HOURS more", x.now(0), 61);
+        ShadeCarpets all = full();
+        due("13: all 8 in 60 HOURS, a bride alone has SHADE then", all.hours(60), 18);
+        due("13: all 8 in 60 HOURS", all.now(5), 1 << 4);
         lastHour();
         for (int what : new int[] {-1, 7, LOW, HIGH}) {
             refuses("14: now(" + what + ")", BoundaryTest::busy, BEYOND, y -> y.now(what));
@@ -731,6 +734,9 @@ public final class BoundaryTest {
         changesNothing("15: 0 at least", () -> one(CARAVAN, 0, 5, 0, 0), 0, y -> y.on(0, 60));
         changesNothing("15: 1 left", () -> one(CARAVAN, 0, 5, 0, 0), 1, y -> y.on(0, 4));
         changesNothing("15: with no SHADE", () -> one(CARAVAN, 0, 0, 0, 0), 0, y -> y.on(0, 1));
+        changesNothing("15: ON by HEAT 6 and 5", () -> oneAt(18, CARRIER, 0, 20, 0, 0), 19, y -> y.on(0, 2));
+        changesNothing("15: ON by HEAT 5 and 6", () -> oneAt(5, CARRIER, 0, 20, 0, 0), 19, y -> y.on(0, 2));
+        changesNothing("15: ON by HEAT 11, 12 and 11", () -> oneAt(11, CARRIER, 0, 20, 0, 0), 16, y -> y.on(0, 3));
         changesNothing("15: FOUND ON", () -> guarded(one(CARAVAN, 0, 50, 0, 0), 0, 9), 0, y -> y.on(0, 1));
         changesNothing("15: not FOUND ON 0 HOURS", () -> guarded(one(CARAVAN, 0, 50, 0, 0), 0, 9), 50, y -> y.on(0, 0));
         changesNothing("16: in 1 HOUR", () -> guarded(one(CARAVAN, 0, 50, 0, 0), 0, 9), 1, y -> y.found(0));
@@ -897,6 +903,11 @@ public final class BoundaryTest {
         refuses("23: NONE, CLOUDS", () -> cloudy(guarded(one(CARRIER, 0, 99, 0, 0), 1, 9)), NONE, y -> y.post(0, 1));
         changesNothing("23: the PLACE itself", () -> guarded(one(CARRIER, 0, 99, 0, 0), 1, 9), 1, y -> y.post(0, 1));
         changesNothing("23: the first PLACE", () -> guarded(one(CARRIER, 1, 99, 0, 0), 0, 9), 0, y -> y.post(0, 0));
+        changesNothing("23: the least POST", () -> guarded(one(CARRIER, 1, 99, 0, 0), 0, 1), 0, y -> y.post(0, 0));
+        ShadeCarpets back = guarded(one(CARRIER, 0, 99, 0, 0), 15, 9);
+        due("23: taken away in thought", back.post(0, 15), 15);
+        due("23: it stands there still", back.soonest(0, 15), NONE);
+        due("23: it stands there still", back.reach(0, 48), 32767);
         changesNothing("23: the last PLACE", () -> guarded(one(CARRIER, 14, 99, 0, 0), 15, 9), 15, y -> y.post(0, 15));
         changesNothing("23: of several the least", () -> guarded(guarded(one(CARRIER, 0, 99, 0, 0), 1, 9), 4, 9), 1,
             y -> y.post(0, 15));
@@ -947,6 +958,8 @@ public final class BoundaryTest {
         refuses("25: NONE, 49 HOURS more, it can't stay", () -> guarded(shutFor(49), 0, 9), NONE, y -> y.depart(0, 1));
         refuses("25: NONE, it can't stay nor go",
             () -> guarded(guarded(guarded(one(CARRIER, 0, 99, 0, 0), 0, 9), 1, 9), 4, 9), NONE, y -> y.depart(0, 15));
+        Supplier<ShadeCarpets> watched = () -> guarded(shutFor(24), 0, 4);
+        changesNothing("25: FOUND in the 8th HOUR if it stays, 4 and 2 and 4, so it stays 7", watched, 7, y -> y.depart(0, 1));
         changesNothing("25: it can't stay, but it is there", () -> guarded(one(CARRIER, 0, 99, 0, 0), 0, 9), 0,
             y -> y.depart(0, 0));
     }
@@ -1158,6 +1171,10 @@ public final class BoundaryTest {
         due("28: zeros ahead", x.placeOf(15, 0), 9);
         fault("28: words as long as can be", "sunclouds", 0);
         fault("28: words as long as can be", "suns", 0);
+        fault("28: a is a letter", "suna", 0);
+        fault("28: z is a letter", "sunz", 0);
+        fault("28: another first letter", "nun", 0);
+        fault("28: another last letter", "sum", 0);
         fault("28: a part of a word", "su", 0);
         fault("28: a great letter begins no token", "Sun", 0);
         fault("28: a great letter ends a word", "suN", 0);
@@ -1465,6 +1482,9 @@ public final class BoundaryTest {
         due("35: an image of nothing", x.image(), 1);
         for (int i = 0; i < 8; i++) {
             x.carrier(3, 3);
+            for (int what = 2; what < 6; what++) {
+                x.set(i, what, 9);
+            }
         }
         due("36: no CARRIERS", x.undo(), 0);
         due("36: no CARRIERS are", x.count(0), 0);
@@ -1473,6 +1493,8 @@ public final class BoundaryTest {
         due("36: it stays kept", x.undo(), 0);
         for (int i = 0; i < 8; i++) {
             due("36: there is room for 8 again", x.carrier(1, 1), i);
+            due("36: SHADE at first again", x.of(i, 2), 20);
+            due("36: COVER, DUSK, CASH at first again", x.of(i, 3) + x.of(i, 4) + x.of(i, 5), 0);
         }
         due("35: an image of 8", x.image(), 1);
         due("36: the latest", x.undo(), 8);
