@@ -6,6 +6,7 @@ import java.nio.charset.StandardCharsets;
 import java.nio.file.Files;
 import java.nio.file.Paths;
 import java.util.Arrays;
+import java.util.List;
 import java.util.TreeSet;
 import java.util.regex.Matcher;
 import java.util.regex.Pattern;
@@ -25,6 +26,9 @@ public final class FaceTest {
         "\\bthrows?\\b", "\\btry\\b", "\\bcatch\\b", "\\bsynchronized\\b", "\\bassert\\b", "->", "::", "@",
         "\\bSystem\\.(?!arraycopy)", "Exact\\b", "\\bRandom\\b", "\\bThread\\b", "^package\\b", "\\bpublic static\\b",
         "^import (?!java\\.util\\.Arrays;)", "String\\[\\]"};
+
+    private static final List<Class<?>> CONSTANTS = Arrays.asList(int.class, long.class, boolean.class, char.class,
+        String.class, int[].class, long[].class, char[].class, byte[].class);
 
     private static int wrong = 0;
 
@@ -75,13 +79,41 @@ public final class FaceTest {
         for (Method m : c.getDeclaredMethods()) {
             must(!Modifier.isPrivate(m.getModifiers()) || !names.contains(m.getName()), "own name for " + told(m));
         }
-        must(c.getDeclaredClasses().length <= 12, "at most twelve classes");
+        must(c.getDeclaredClasses().length <= 11, "at most twelve classes with this one");
+        keepsToRules(c);
         for (Class<?> inner : c.getDeclaredClasses()) {
             must(Modifier.isStatic(inner.getModifiers()), inner + " is static");
+            keepsToRules(inner);
             for (Method m : inner.getDeclaredMethods()) {
                 must(!names.contains(m.getName()), "own name for " + inner.getSimpleName() + "'s " + told(m));
             }
         }
+    }
+
+    /** Static fields are constants; some twenty fields beside them; at most seven parameters. */
+    private static void keepsToRules(Class<?> c) {
+        int own = 0;
+        for (Field f : c.getDeclaredFields()) {
+            boolean isStatic = Modifier.isStatic(f.getModifiers());
+            own += isStatic ? 0 : 1;
+            must(!isStatic || Modifier.isFinal(f.getModifiers()) && CONSTANTS.contains(f.getType()), "a constant: " + f);
+        }
+        must(own <= 20, "at most twenty fields in " + c);
+        for (Method m : c.getDeclaredMethods()) {
+            must(m.getParameterCount() <= 7, "at most seven parameters in " + m);
+        }
+    }
+
+    /** A method begins at its head, 4 or 8 blanks in, and ends at the brace as far in. */
+    private static void lengths(String source) {
+        Matcher m = Pattern.compile("(?sm)^( {4}| {8})(?! |private static (?:final )?class)\\w[^;={}]*\\) \\{\\n(.*?)^\\1\\}").matcher(source);
+        int methods = 0;
+        while (m.find()) {
+            int lines = m.group().split("\\n").length;
+            must(lines <= 60, "at most sixty lines, not " + lines + ": " + m.group().split("\\n")[0]);
+            methods++;
+        }
+        must(methods >= FACE.length, "methods seen in the source: " + methods);
     }
 
     /** Comments and texts are left out first. */
@@ -89,6 +121,7 @@ public final class FaceTest {
         byte[] bytes = Files.readAllBytes(Paths.get("src/main/java/ShadeCarpets.java"));
         String source = new String(bytes, StandardCharsets.ISO_8859_1);
         must(Pattern.matches("[\\n -~]*+", source), "plain signs alone");
+        lengths(source);
         String code = source.replaceAll("(?s)/\\*.*?\\*/", "").replaceAll("//[^\\n]*", "").replaceAll("\"[^\"\\n]*\"", "\"\"");
         for (String f : FORBIDDEN) {
             Matcher m = Pattern.compile(f, Pattern.MULTILINE).matcher(code);

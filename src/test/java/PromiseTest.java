@@ -936,6 +936,10 @@ public final class PromiseTest {
         due("30 beyond", x.write(4, 0, 0), BEYOND);
         due("30 beyond", x.write(-1, 0, 0), BEYOND);
         due("30 missing before no such number", x.write(3, 99, 0), MISSING);
+        int findings = x.status(-1);
+        due("30 a number like a finding", x.write(2, 0, BEYOND), 5);
+        due("30 a number like a finding", x.write(2, 0, 0), BEYOND);
+        due("30 and is none", x.status(-1), findings);
     }
 
     private static void p31Copy() {
